@@ -99,6 +99,12 @@ public final class DaysTest {
         Due.is("DAY", x.count(2), 9960);
         Due.is("promise 15: DAY above", x.days(40), Due.STATE);
         Due.is("promise 15: too many of them", x.days(61), Due.BEYOND);
+        x.image();
+        x.days(38);
+        Due.is("promise 16: two too many", x.loose(2), Due.STATE);
+        Due.is("promise 16: DAY at most", x.loose(1), 0);
+        Due.is("DAY", x.count(2), 9999);
+        x.restore();
         Due.is("promise 15: DAY at most", x.days(39), 0);
         Due.is("DAY", x.count(2), 9999);
         Due.is("promise 15: none any more", x.days(1), Due.STATE);

@@ -47,7 +47,8 @@ public final class ImagesTest {
         x.untell(0);
         Due.text(x, 1, "3");
         Due.feed(x, "ssss");
-        x.tell(1);
+        x.check();
+        x.tell(77);
         x.tell(2);
         x.days(5);
         x.person(30);

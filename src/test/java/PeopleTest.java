@@ -145,6 +145,10 @@ public final class PeopleTest {
         Due.is("promise 7: WIDOW at the edge", given(6, 25, 50), 25);
         Due.is("promise 7: WIDOW for one ashore", given(6, 25, 0), 25);
         Due.is("promise 7: the most", given(6, 99, 51), 198);
+        RopeShore cutter = Due.shore(33, 0);
+        Due.text(cutter, 0, "g+5");
+        cutter.tells(0, 1, 12);
+        Due.is("promise 7: a CUTTER gives 0", cutter.rope(0, 1), 5);
         RopeShore x = Due.shore(64, 0);
         x.tells(0, 1, 30);
         x.swim(1, 500);

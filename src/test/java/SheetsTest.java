@@ -150,6 +150,13 @@ public final class SheetsTest {
         Due.is("promise 30: oneself alone", x.words(0, 0), 1);
         Due.is("promise 30: one", x.words(2, 0), 1);
         Due.is("promise 30: of 1 still", x.tells(2, 1, 0), 0);
+        RopeShore eight = Due.shore(0, 0, 0, 0, 0, 0, 0, 0);
+        eight.tells(1, 0, 66);
+        Due.sheet(eight, 0, 8, 1, 2, 3, 4, 5, 6, 7, 8, 9);
+        Due.is("promise 30: no more than PEOPLE", eight.words(0, 0), 8);
+        Due.is("promise 30: nobody but one", eight.tells(1, 0, 0), 66);
+        Due.is("promise 30: of the last", eight.tells(0, 7, 0), 8);
+        Due.is("promise 30: by the last", eight.words(7, 0), 8);
         x.sheet(0, 8, 0);
         Due.is("promise 30: no numbers", x.words(2, 0), 0);
         Due.is("promise 30: no ERROR", x.told(1), 0);

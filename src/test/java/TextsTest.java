@@ -162,6 +162,9 @@ public final class TextsTest {
         gives("(1|1)&0", 0);
         gives("1&2=2", 1);
         gives("1+1=2", 1);
+        for (String none : new String[] {"0|0", "1&0", "0&1", "2<2", "2=1", "2>2", "!7", "4/0", "4%0"}) {
+            gives("5+(" + none + ")", 5);
+        }
         gives("!0+1", 2);
         gives("!9+1", 1);
         gives("!!9", 1);

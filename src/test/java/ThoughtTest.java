@@ -3,6 +3,7 @@ public final class ThoughtTest {
     public static void main(String[] args) {
         then();
         cuts();
+        ofAnother();
         hauls();
         onlyWhoIsAshore();
         party();
@@ -67,6 +68,21 @@ public final class ThoughtTest {
         Due.is("promise 19: nobody below", x.cuts(-1, 5, 0), Due.BEYOND);
     }
 
+    private static void ofAnother() {
+        RopeShore x = Due.shore(0, 0, 0, 0, 0, 0, 0, 0);
+        for (int i = 0; i < 8; i++) {
+            x.tells(i, 4, 10 + i);
+        }
+        Due.is("promise 19: of number 4, by 0", x.cuts(4, 85, 1), 1);
+        Due.is("promise 19: by 7", x.cuts(4, 78, 1), 128);
+        Due.is("promise 19: by all", x.cuts(4, 1, 1), 255 - 16);
+        Due.is("promise 20: of number 4, by 0", x.hauls(4, 10, 1), 1);
+        Due.is("promise 20: by 7", x.hauls(4, 17, 1), 128);
+        Due.is("promise 20: by 2 and 5", x.hauls(4, 27, 1), 4 + 32);
+        Due.is("promise 20: by all", x.hauls(4, 94, 1), 255 - 16);
+        Due.is("promise 20: not by all", x.hauls(4, 95, 1), Due.NONE);
+    }
+
     private static void hauls() {
         RopeShore x = spokenOf(10, 20, 20, 30);
         Due.is("promise 20: one", x.hauls(0, 1, 0), 1);
@@ -109,6 +125,7 @@ public final class ThoughtTest {
         }
         Due.is("promise 21: three of four", x.party(10, 0), 3);
         Due.is("promise 21: the least three", x.party(10, 1), 7);
+        Due.is("promise 21: for the least", x.party(1, 1), 7);
         Due.is("promise 21: for 11", x.party(11, 1), 3);
         Due.is("promise 21: for 20", x.party(20, 0), 2);
         Due.is("promise 21: for 21", x.party(21, 1), 1);
@@ -138,6 +155,17 @@ public final class ThoughtTest {
         Due.is("promise 21: who is OUT now gives", x.party(60, 1), 4);
         x.days(1);
         Due.is("promise 21: who is LOST gives none", x.party(2, 1), 0);
+        x.tells(1, 2, 9);
+        x.tells(2, 1, 9);
+        x.saves(2);
+        Due.is("promise 21: and takes none", x.party(9, 1), 2);
+        Due.is("promise 21: not more", x.party(10, 1), 0);
+        x.swim(2, 60);
+        x.days(1);
+        x.tells(0, 2, 32);
+        x.tells(1, 0, 0);
+        x.tells(1, 2, 0);
+        x.tells(2, 1, 0);
         x.saves(0);
         Due.is("promise 21: who is LOST is not among them", x.party(2, 1), 2);
         x.saves(2);
@@ -171,6 +199,12 @@ public final class ThoughtTest {
         Due.is("promise 22: nobody else is ashore", x.speaks(0, 0), Due.NONE);
         Due.is("promise 22: nobody else, but what is above", x.speaks(0, 2), Due.BEYOND);
         Due.is("promise 22: one may be OUT oneself", x.speaks(1, 0), 0);
+        RopeShore y = Due.shore(1, 0, 25);
+        Due.is("promise 22: the first is the most", y.speaks(1, 0), 0);
+        Due.is("promise 22: by so much", y.speaks(1, 1), 10);
+        y.tells(0, 1, 95);
+        Due.is("promise 22: the last is the most", y.speaks(1, 0), 2);
+        Due.is("promise 22: by the half", y.speaks(1, 1), 5);
     }
 
     private static void odds(RopeShore x, int far, int above, int below) {

@@ -115,6 +115,10 @@ public final class VoicesTest {
         Due.is("promise 26: its first", x.body(0), 11);
         Due.is("promise 26: its second", x.body(1), 10);
         Due.is("promise 26: no third", x.body(2), Due.NONE);
+        x.voice(0, 0, 0);
+        Due.is("promise 26: of the latest again", x.count(5), 1);
+        Due.is("promise 26: no more of those ahead", x.body(1), Due.NONE);
+        x.voice(0, 1, 0);
         Due.is("promise 26: none below", x.body(-1), Due.NONE);
         Due.is("promise 26: none far above", x.body(Due.MAX), Due.NONE);
     }
