@@ -648,16 +648,16 @@ public final class RopeShore {
         return most;
     }
 
-    /** By Euclid; b is above 0, and so what is answered is, too. */
+    /** By Euclid. It divides, so it is kept from being 0 whatever a and b are. */
     private static int greatestDivisor(int a, int b) {
-        int large = a;
-        int small = b;
-        for (int step = 0; step < 64 && large != 0; step++) {
-            int rest = small % large;
-            small = large;
-            large = rest;
+        int of = b;
+        int by = a;
+        for (int step = 0; step < 64 && by != 0; step++) {
+            int rest = of % by;
+            of = by;
+            by = rest;
         }
-        return small == 0 ? 1 : small;
+        return of == 0 ? 1 : of;
     }
 
     /** All that an IMAGE keeps, and all that is only thought of. */
@@ -712,7 +712,8 @@ public final class RopeShore {
         }
 
         private Person kindOf(int person) {
-            return kinds[kind[person]];
+            int k = kind[person];
+            return kinds[within(k, 0, KINDS - 1) ? k : 0];
         }
 
         private boolean isAshore(int person) {
