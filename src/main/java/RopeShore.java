@@ -42,8 +42,7 @@ public final class RopeShore {
     private final int[] hands = new int[PEOPLE_MOST];
     private final int[] ropes = new int[PEOPLE_MOST * PEOPLE_MOST];
     private final Text read = new Text();
-    private Voice latest = new Voice();
-    private Voice spare = new Voice();
+    private final Voice latest = new Voice();
     private int images = 0;
 
     public RopeShore() {
@@ -343,31 +342,25 @@ public final class RopeShore {
         if (!now.has(person) || !within(voice, 0, 3)) {
             return error(BEYOND);
         }
-        Voice v = spare;
-        v.start(person, now.m[person]);
+        // THE TRACE is of the latest voice(): one that is PARTED leaves the BODIES that it began.
+        latest.start(person, now.m[person]);
         Person kind = now.kindOf(person);
         int answer;
         switch (voice) {
             case 0:
-                answer = kind.say(v, x);
+                answer = kind.say(latest, x);
                 break;
             case 1:
-                answer = kind.let(v, x);
+                answer = kind.let(latest, x);
                 break;
             case 2:
-                answer = kind.haul(v, x);
+                answer = kind.haul(latest, x);
                 break;
             default:
-                answer = kind.part(v, x);
+                answer = kind.part(latest, x);
                 break;
         }
-        if (v.parted) {
-            return error(PARTED);
-        }
-        // Only now is it THE TRACE: a voice that is PARTED changes nothing.
-        spare = latest;
-        latest = v;
-        return answer;
+        return latest.parted ? error(PARTED) : answer;
     }
 
     public int body(int i) {
@@ -1017,7 +1010,7 @@ public final class RopeShore {
         }
     }
 
-    /** A voice() under way: whose it is, the BODIES that began, and whether it was PARTED. */
+    /** The latest voice(): whose it is, the BODIES that began, and whether it was PARTED. */
     private static final class Voice {
         private final int[] bodies = new int[TRACE_MOST];
         private int began = 0;

@@ -583,12 +583,10 @@ final class Model {
 
     int voice(int person, int voice, int x) {
         if (no(person) || off(voice, 0, 3)) return error(Due.BEYOND);
-        List<Integer> begun = new ArrayList<>();
+        trace = new ArrayList<>();
         try {
             Man man = men.get(person);
-            int answer = call(man, person, man.kind, voice, x, begun);
-            trace = begun;
-            return answer;
+            return call(man, person, man.kind, voice, x, trace);
         } catch (Parted parted) {
             return error(Due.PARTED);
         }

@@ -85,15 +85,37 @@ public final class VoicesTest {
             x.voice(0, 2, 3);
             Due.is("promise 25: PARTED, KIND " + kind, x.voice(1, 3, 9), Due.PARTED);
             Due.is("promise 25: PARTED is counted", x.told(6), 1);
-            Due.is("promise 26: an ERROR leaves THE TRACE", x.count(5), 3);
-            Due.is("promise 26: an ERROR leaves THE TRACE", x.body(0), 12);
             Due.is("promise 25: and goes on", x.voice(1, 0, 9) == Due.PARTED ? 1 : 0, 0);
             x.become(1, 10 * kind + 2);
             Due.is("promise 25: another m", x.voice(1, 3, 9) == Due.PARTED ? 1 : 0, 0);
         }
-        RopeShore y = Due.shore(0);
-        Due.is("promise 25: PARTED first", y.voice(0, 3, 1), Due.PARTED);
-        Due.is("promise 26: no TRACE yet", y.body(0), Due.NONE);
+        for (int kind = 0; kind < 7; kind++) {
+            if (kind == 1 || kind == 4) {
+                traceOfParted(kind, 21, 13);
+            } else {
+                traceOfParted(kind, 13);
+            }
+        }
+    }
+
+    /** Of the latest voice() are the BODIES that began, though it was PARTED; none begins after that. */
+    private static void traceOfParted(int kind, int... bodies) {
+        String what = "promise 26: PARTED, KIND " + kind;
+        RopeShore x = Due.shore(0, 10 * kind + 1);
+        for (int time = 0; time < 3; time++) {
+            x.voice(1, 3, 9);
+            Due.is(what + ", after " + time, x.count(5), bodies.length);
+            for (int i = 0; i < bodies.length; i++) {
+                Due.is(what + ", BODY " + i, x.body(i), bodies[i]);
+            }
+            Due.is(what + ", one more", x.body(bodies.length), Due.NONE);
+            x.voice(0, time, 3);
+            Due.is(what + ", then another", x.count(5), time + 1);
+            Due.is(what + ", then another", x.body(0), 10 + time);
+        }
+        x.voice(1, 3, 9);
+        x.voice(1, 4, 9);
+        Due.is(what + ", BEYOND leaves it", x.count(5), bodies.length);
     }
 
     private static void beyond() {
