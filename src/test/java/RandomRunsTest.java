@@ -1,9 +1,10 @@
 import java.util.Random;
 
-/** Runs of 512 calls, by a seed each, in which the program is to answer as the Model does. */
+/** Runs of nearly 512 calls, by a seed each, in which the program is to answer as the Model does. */
 public final class RandomRunsTest {
-    private static final int RUNS = 600;
+    private static final int RUNS = 1000;
     private static final int CALLS = 512;
+    private static final int MOST_AT_ONCE = 60;
     private static final int[] EXTREMES = {
         Due.MIN, Due.MIN + 1, -2, -1, 24, 25, 60, 61, 70, 99, 100, 500, 501, Due.MAX - 1, Due.MAX
     };
@@ -15,6 +16,7 @@ public final class RandomRunsTest {
     private final Model y = new Model();
     private final String run;
     private final int wild;
+    private int calls = 0;
 
     private RandomRunsTest(int seed) {
         random = new Random(seed);
@@ -26,9 +28,10 @@ public final class RandomRunsTest {
         for (int seed = 0; seed < RUNS; seed++) {
             RandomRunsTest test = new RandomRunsTest(seed);
             test.begin();
-            for (int call = 0; call < CALLS; call++) {
+            while (test.calls <= CALLS - MOST_AT_ONCE) {
                 test.call();
             }
+            Due.holds("no more than are promised", test.calls <= CALLS);
         }
         texts();
         Due.end("RandomRunsTest");
@@ -65,6 +68,7 @@ public final class RandomRunsTest {
     }
 
     private void same(String call, int got, int want) {
+        calls++;
         Due.is(run + ": " + call, got, want);
     }
 
@@ -201,7 +205,8 @@ public final class RandomRunsTest {
             int at = random.nextInt(text.length());
             text = text.substring(0, at) + (char) random.nextInt(256) + text.substring(at);
         }
-        if (x.count(3) > 0 && random.nextInt(4) > 0) {
+        same("count(3)", x.count(3), y.count(3));
+        if (y.count(3) > 0 && random.nextInt(4) > 0) {
             same("text(1)", x.text(1), y.text(1));
         }
         for (int at = 0; at < text.length(); at += 8) {
